@@ -11,6 +11,8 @@ public final class EndsTest {
         brackets();
         bracketsWithHandles();
         where();
+        passedOn();
+        comesToValue();
         Check.finish();
     }
 
@@ -162,5 +164,65 @@ public final class EndsTest {
         s.fails("the wrong sort is the doing of the one that wants it", s.then(sort, fail), Scene.ILLEGAL, sort);
         s.x.clear();
         s.due("clear leaves it", s.x.where(), sort);
+    }
+
+    /** What FAILS or is EXIT in any part goes on through every CODE, and nothing behind it is worked. */
+    private static void passedOn() {
+        int[][] partsOf = {{2, 1}, {4, 0}, {5, 0, 1}, {6, 0}, {7, 0}, {8, 0, 1}, {9, 0}, {10, 0, 1}, {11, 0}, {12, 0},
+            {13, 0}, {14, 0}, {17, 0}, {19, 0, 1}, {20, 0, 1, 2}, {21, 0, 1}, {22, 0, 1}, {23, 0, 1}, {25, 0},
+            {26, 0, 1}, {27, 0, 1}, {28, 0, 1, 2}};
+        for (int[] entry : partsOf) {
+            for (int i = 1; i < entry.length; i++) {
+                passedOn(entry[0], entry[i], false);
+                passedOn(entry[0], entry[i], true);
+            }
+        }
+    }
+
+    private static void passedOn(int code, int part, boolean byExit) {
+        Scene s = new Scene("part " + part + " of " + code);
+        s.lay(0, 1);
+        int one = s.num(part == 2 && code == 20 ? 0 : 1);
+        int write = s.open(1, Scene.WRITE);
+        int lazy = s.lazy(s.open(0, Scene.READ));
+        int caught = s.fail(1);
+        int bad = byExit ? s.exit(s.num(6)) : s.fail(6);
+        int[] parts = {one, one, one};
+        if (code == 5 || code == 10) {
+            parts[0] = write;
+        } else if (code == 8) {
+            parts[0] = lazy;
+        } else if (code == 2) {
+            parts[0] = 3;
+        } else if (code == 26) {
+            parts[0] = caught;
+            parts[2] = 2;
+        } else if (code == 13) {
+            parts[1] = 3;
+        }
+        parts[part] = bad;
+        int node = s.x.node(code, parts[0], parts[1], parts[2]);
+        int whole = s.then(node, s.print(one));
+        if (byExit) {
+            s.ends("EXIT", whole, Scene.EXITED, 6);
+        } else {
+            s.fails("FAIL", whole, 6, bad);
+        }
+        s.due("nothing behind it is worked", s.x.told(2), 0);
+    }
+
+    /** What came to a VALUE is no failure for what stands around it. */
+    private static void comesToValue() {
+        Scene s = new Scene("a VALUE within");
+        s.lay(0, 4, 5);
+        int lazy = s.lazy(s.open(0, Scene.READ));
+        int fail = s.fail(1);
+        s.number("of FINALLY", s.length(s.ending(lazy, s.num(0))), 2);
+        s.number("of BRACKET", s.length(s.bracket(s.num(1), s.num(0), lazy)), 2);
+        s.number("of CATCH", s.length(s.catching(lazy, fail, 127)), 2);
+        s.number("of CATCH that took one", s.length(s.catching(fail, lazy, 127)), 2);
+        s.number("of IF", s.length(s.iff(s.num(0), fail, lazy)), 2);
+        s.number("of THEN", s.length(s.then(s.num(0), lazy)), 2);
+        s.number("of SET", s.length(s.set(3, lazy)), 2);
     }
 }

@@ -434,6 +434,10 @@ public final class HandleTest {
         s.number("comes to 0", rename, 0);
         s.order("is an act", rename);
         s.due("a is not there", s.x.size(0), NONE);
+        s.due("nor are its bytes", s.x.content(0, 0), NONE);
+        s.due("it was not there", s.x.there(0, true), 0);
+        s.due("nor do they come back", s.x.size(0), 0);
+        s.x.there(0, false);
         s.content("b has its bytes", 1, 1, 2);
         s.due("bytes of all FILES", s.x.told(3), 2);
         s.due("PERMITS stay with a", s.x.permit(0, 3), 2);

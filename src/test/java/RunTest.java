@@ -55,6 +55,7 @@ public final class RunTest {
         s.lay(0, 1);
         int held = s.set(1, s.open(0, Scene.READ));
         s.ends("SET of a HANDLE", held, Scene.A_HANDLE, 0);
+        s.number("a number anew in the next run", s.get(1), 0);
         s.ends("GET of a HANDLE", s.then(held, s.get(1)), Scene.A_HANDLE, 0);
         int list = s.set(2, s.lazy(s.get(1)));
         s.ends("GET of a LIST", s.then(held, list, s.get(2)), Scene.A_LIST, 0);
@@ -167,21 +168,50 @@ public final class RunTest {
         s.content("the FILE", 0, 5);
     }
 
-    /** 60 NODES, each a part of the next one, for the CODES that are worked through most methods. */
+    /** 60 NODES, each a part of the next one, through every part of the CODES that take any number. */
     private static void deep() {
-        for (int code : new int[] {2, 5, 8, 17, 19, 22, 23, 26, 27, 28}) {
+        int[][] partsOf = {{2, 1}, {17, 0}, {19, 0, 1}, {20, 0, 1, 2}, {21, 0, 1}, {22, 0, 1}, {23, 0, 1},
+            {26, 0}, {27, 0, 1}, {28, 0, 1, 2}};
+        for (int[] entry : partsOf) {
+            for (int i = 1; i < entry.length; i++) {
+                chain(entry[0], entry[i]);
+            }
+        }
+        deepEnds();
+    }
+
+    private static void chain(int code, int part) {
+        Scene s = new Scene("chain through part " + part + " of " + code);
+        int bottom = s.num(code == 20 && part == 2 ? 0 : 1);
+        for (int n = 1; n < 60; n++) {
+            int[] parts = {bottom, bottom, bottom};
+            parts[part] = n - 1;
+            s.due("node", s.x.node(code, parts[0], parts[1], parts[2]), n);
+        }
+        s.due("run", s.x.run(59), Scene.A_NUMBER);
+        s.due("where", s.x.where(), NONE);
+        Check.holds("all are worked", s.x.worked() >= 60);
+    }
+
+    private static void deepEnds() {
+        for (int code : new int[] {4, 5, 8, 9}) {
             InputOutput x = new InputOutput();
             x.node(0, 1, 0, 0);
             for (int n = 1; n < 60; n++) {
-                int a = code == 2 ? 0 : n - 1;
-                int b = code == 2 ? n - 1 : 0;
-                Check.due("chain of " + code, x.node(code, a, b, 0), n);
+                Check.due("chain of " + code, x.node(code, n - 1, 0, 0), n);
             }
-            boolean wrongSort = code == 5 || code == 8;
-            Check.due("run of the chain of " + code, x.run(59), wrongSort ? Scene.FAILED : 0);
-            Check.holds("worked of the chain of " + code, x.worked() >= 60);
-            Check.due("where in the chain of " + code, x.where(), wrongSort ? 1 : NONE);
+            Check.due("run of the chain of " + code, x.run(59), Scene.FAILED);
+            Check.due("where in the chain of " + code, x.where(), 1);
+            Check.due("worked of the chain of " + code, x.worked(), 60);
         }
+        InputOutput x = new InputOutput();
+        x.node(24, 6, 0, 0);
+        for (int n = 1; n < 60; n++) {
+            Check.due("chain of caught ones", x.node(26, 0, n - 1, 64), n);
+        }
+        Check.due("run of caught ones", x.run(59), Scene.FAILED);
+        Check.due("where of caught ones", x.where(), 0);
+        Check.due("worked of caught ones", x.worked(), 119);
     }
 
     private static void freshRuns() {
@@ -199,5 +229,12 @@ public final class RunTest {
         s.number("20 HANDLES", many, 0);
         s.number("20 HANDLES again", many, 0);
         s.due("worked", s.x.worked(), 22);
+        s.fill(1, 40, 1);
+        s.fill(2, 40, 1);
+        s.fill(3, 38, 1);
+        int write = s.set(1, s.open(4, Scene.WRITE));
+        int put = s.put(s.get(1), s.num(5));
+        s.number("a BUFFER", s.then(write, s.buffer(s.get(1), 9), put), 0);
+        s.fails("none at first", s.then(write, put), Scene.FULL, put);
     }
 }
