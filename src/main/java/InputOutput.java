@@ -45,7 +45,7 @@ public final class InputOutput {
         console = new Console();
         script = new Script();
         handles = new Handles(disk);
-        lists = new Lists(disk);
+        lists = new Lists();
         journal = new Journal();
         worker = new Worker(script, console, handles, lists, journal);
     }
@@ -169,6 +169,10 @@ public final class InputOutput {
         return n >= 0 && n < bound;
     }
 
+    private static boolean mayTake(int mode) {
+        return mode != WRITE_MODE && mode != APPEND_MODE;
+    }
+
     /**
      * Doings answer with a VALUE, none of which is below 0, or with a KIND that
      * is turned below 0 by this; turning it again gives the KIND back.
@@ -211,9 +215,9 @@ public final class InputOutput {
             return before;
         }
 
-        /** A FILE that is not there has no bytes, so its length alone decides. */
+        /** The byte or NONE; a FILE that is not there has no bytes, so its length alone decides. */
         int byteAt(int file, int i) {
-            return within(i, lengths[file]) ? bytes[file][i] : NONE;
+            return i >= 0 && i < lengths[file] ? bytes[file][i] : NONE;
         }
 
         void create(int file) {
@@ -387,10 +391,14 @@ public final class InputOutput {
         }
     }
 
-    /** One HANDLE with its BUFFER; it is used again by later runs. */
+    /**
+     * One HANDLE with its BUFFER; it is used again by later runs. What it does
+     * answers as turned tells.
+     */
     private static final class Handle {
         static final int FACTS = 6;
 
+        private final Disk disk;
         private final int[] buffer = new int[LINE_ROOM];
         private int waiting = 0;
         private int buffering = NO_BUFFER;
@@ -402,10 +410,14 @@ public final class InputOutput {
         private int taken = 0;
         private int laid = 0;
 
-        void begin(int newFile, int newMode, int newPlace) {
+        Handle(Disk disk) {
+            this.disk = disk;
+        }
+
+        void begin(int newFile, int newMode) {
             file = newFile;
             mode = newMode;
-            place = newPlace;
+            place = newMode == APPEND_MODE ? disk.lengthOf(newFile) : 0;
             state = IS_OPEN;
             buffering = NO_BUFFER;
             waiting = 0;
@@ -418,39 +430,63 @@ public final class InputOutput {
             return state == IS_OPEN;
         }
 
+        boolean isHalf() {
+            return state == IS_HALF;
+        }
+
+        boolean isClosed() {
+            return state == IS_CLOSED;
+        }
+
+        boolean writes() {
+            return mode != READ_MODE;
+        }
+
         boolean holds(int wanted) {
             return state != IS_CLOSED && file == wanted;
         }
 
-        /** False where the BUFFER would have no place for it; flushing in time keeps it from that. */
-        boolean keep(int v) {
-            if (waiting >= LINE_ROOM) {
+        /** From now on a LIST reads it; false where that may not be. */
+        boolean becomeHalf() {
+            if (state != IS_OPEN || mode != READ_MODE) {
                 return false;
             }
-            buffer[waiting] = v;
-            waiting++;
-            given++;
+            state = IS_HALF;
             return true;
         }
 
-        boolean isDue(int latest) {
+        void endReading() {
+            state = IS_CLOSED;
+        }
+
+        int close() {
+            int answer = state == IS_OPEN ? flush() : DONE;
+            state = IS_CLOSED;
+            return answer;
+        }
+
+        int put(int v) {
+            if (state != IS_OPEN || !writes() || waiting >= LINE_ROOM) {
+                return turned(ILLEGAL);
+            }
+            int low = v & (BYTES - 1);
+            buffer[waiting] = low;
+            waiting++;
+            given++;
+            return isDue(low) ? flush() : DONE;
+        }
+
+        private boolean isDue(int latest) {
             if (buffering == LINE_BUFFER) {
                 return latest == LINE_END || waiting >= LINE_ROOM;
             }
             return buffering == NO_BUFFER || waiting >= buffering;
         }
 
-        /** The next byte of the FILE, or NONE. */
-        int takeFrom(Disk disk) {
-            int v = disk.byteAt(file, place);
-            if (v != NONE) {
-                place++;
-                taken++;
+        int flush() {
+            if (state != IS_OPEN) {
+                return turned(ILLEGAL);
             }
-            return v;
-        }
-
-        int flushTo(Disk disk) {
             int done = 0;
             while (done < waiting && disk.write(file, place, buffer[done])) {
                 done++;
@@ -459,6 +495,58 @@ public final class InputOutput {
             int answer = done == waiting ? DONE : turned(FULL);
             laid += done;
             waiting = 0;
+            return answer;
+        }
+
+        int take() {
+            if (!mayTake(mode)) {
+                return turned(ILLEGAL);
+            }
+            int answer = flush();
+            if (answer != DONE) {
+                return answer;
+            }
+            int v = nextByte();
+            return v == NONE ? turned(END) : v;
+        }
+
+        /** The next byte of the FILE, or NONE. */
+        int nextByte() {
+            int v = disk.byteAt(file, place);
+            if (v != NONE) {
+                place++;
+                taken++;
+            }
+            return v;
+        }
+
+        /** APPEND is refused behind the FLUSH, too: the document tells it together with the wrong places. */
+        int seek(int wanted) {
+            int answer = flush();
+            if (answer != DONE) {
+                return answer;
+            }
+            if (mode == APPEND_MODE || wanted < 0 || wanted > disk.lengthOf(file)) {
+                return turned(ILLEGAL);
+            }
+            place = wanted;
+            return DONE;
+        }
+
+        int tellPlace() {
+            return state == IS_OPEN ? place + waiting : turned(ILLEGAL);
+        }
+
+        int measure() {
+            int answer = flush();
+            return answer == DONE ? disk.lengthOf(file) : answer;
+        }
+
+        int changeBuffer(int wanted) {
+            int answer = flush();
+            if (answer == DONE) {
+                buffering = wanted;
+            }
             return answer;
         }
 
@@ -480,7 +568,7 @@ public final class InputOutput {
         }
     }
 
-    /** The HANDLES of the latest run, and what they and the FILES under them can do. */
+    /** The HANDLES of the latest run, and what may be done with FILES as long as they hold them. */
     private static final class Handles {
         private final Disk disk;
         private final Handle[] all = new Handle[MAX_HANDLES];
@@ -489,7 +577,7 @@ public final class InputOutput {
         Handles(Disk disk) {
             this.disk = disk;
             for (int i = 0; i < MAX_HANDLES; i++) {
-                all[i] = new Handle();
+                all[i] = new Handle(disk);
             }
         }
 
@@ -514,107 +602,32 @@ public final class InputOutput {
             if (mode == WRITE_MODE) {
                 disk.makeEmpty(file);
             }
-            all[count].begin(file, mode, mode == APPEND_MODE ? disk.lengthOf(file) : 0);
+            all[count].begin(file, mode);
             count++;
             return count - 1;
         }
 
         private int refusalToOpen(int file, int mode) {
-            boolean reads = mode != WRITE_MODE && mode != APPEND_MODE;
             boolean writes = mode != READ_MODE;
             if (!writes && !disk.isThere(file)) {
                 return turned(ABSENT);
             }
-            if (reads && !disk.grants(file, MAY_READ) || writes && !disk.grants(file, MAY_WRITE)) {
+            if (mayTake(mode) && !disk.grants(file, MAY_READ) || writes && !disk.grants(file, MAY_WRITE)) {
                 return turned(DENIED);
             }
-            if (writes ? isHeld(file) : isHeldByWriter(file)) {
+            if (isHeld(file, !writes)) {
                 return turned(BUSY);
             }
             return count >= MAX_HANDLES ? turned(FULL) : DONE;
         }
 
-        private boolean isHeld(int file) {
-            boolean held = false;
+        private boolean isHeld(int file, boolean byWriterOnly) {
             for (int i = 0; i < count; i++) {
-                held = held || all[i].holds(file);
-            }
-            return held;
-        }
-
-        private boolean isHeldByWriter(int file) {
-            boolean held = false;
-            for (int i = 0; i < count; i++) {
-                held = held || all[i].mode != READ_MODE && all[i].holds(file);
-            }
-            return held;
-        }
-
-        int close(Handle h) {
-            int answer = h.isOpen() ? h.flushTo(disk) : DONE;
-            h.state = IS_CLOSED;
-            return answer;
-        }
-
-        /** The states stay, since handle() tells how they were ahead of this closing. */
-        void closeBehindRun() {
-            for (int i = 0; i < count; i++) {
-                if (all[i].isOpen()) {
-                    all[i].flushTo(disk);
+                if (all[i].holds(file) && (all[i].writes() || !byWriterOnly)) {
+                    return true;
                 }
             }
-        }
-
-        int put(Handle h, int v) {
-            int low = v & (BYTES - 1);
-            if (!h.isOpen() || h.mode == READ_MODE || !h.keep(low)) {
-                return turned(ILLEGAL);
-            }
-            return h.isDue(low) ? h.flushTo(disk) : DONE;
-        }
-
-        int take(Handle h) {
-            if (!h.isOpen() || h.mode == WRITE_MODE || h.mode == APPEND_MODE) {
-                return turned(ILLEGAL);
-            }
-            if (h.flushTo(disk) != DONE) {
-                return turned(FULL);
-            }
-            int v = h.takeFrom(disk);
-            return v == NONE ? turned(END) : v;
-        }
-
-        int seek(Handle h, int place) {
-            int answer = flush(h);
-            if (answer != DONE) {
-                return answer;
-            }
-            if (h.mode == APPEND_MODE || place < 0 || place > disk.lengthOf(h.file)) {
-                return turned(ILLEGAL);
-            }
-            h.place = place;
-            return DONE;
-        }
-
-        int placeOf(Handle h) {
-            return h.isOpen() ? h.place + h.waiting : turned(ILLEGAL);
-        }
-
-        int measure(Handle h) {
-            int answer = flush(h);
-            return answer == DONE ? disk.lengthOf(h.file) : answer;
-        }
-
-        int changeBuffer(Handle h, int buffering) {
-            int answer = flush(h);
-            if (answer == DONE) {
-                h.buffering = buffering;
-            }
-            return answer;
-        }
-
-        int flush(Handle h) {
-            return h.isOpen() ? h.flushTo(disk) : turned(ILLEGAL);
+            return false;
         }
 
         int removeFile(int file) {
@@ -640,7 +653,16 @@ public final class InputOutput {
             if (!disk.grants(from, MAY_WRITE) || !disk.grants(to, MAY_WRITE)) {
                 return turned(DENIED);
             }
-            return isHeld(from) || isHeld(to) ? turned(BUSY) : DONE;
+            return isHeld(from, false) || isHeld(to, false) ? turned(BUSY) : DONE;
+        }
+
+        /** The states stay, since handle() tells how they were ahead of this closing. */
+        void closeBehindRun() {
+            for (int i = 0; i < count; i++) {
+                if (all[i].isOpen()) {
+                    all[i].flush();
+                }
+            }
         }
     }
 
@@ -663,14 +685,25 @@ public final class InputOutput {
             return within(i, length) ? items[i] : NONE;
         }
 
+        /** Asks for items up to this one, which none has at FILE_ROOM: how many bytes that took. */
+        int reach(int i) {
+            int before = length;
+            int last = Math.min(i, FILE_ROOM);
+            boolean more = true;
+            for (int next = before; more && next <= last; next++) {
+                more = grow();
+            }
+            return length - before;
+        }
+
         /** Takes one byte more; false where the LIST ends. */
-        boolean grow(Disk disk) {
-            if (source == null || source.state != IS_HALF) {
+        private boolean grow() {
+            if (source == null || !source.isHalf()) {
                 return false;
             }
-            int v = source.takeFrom(disk);
+            int v = source.nextByte();
             if (v == NONE || length >= FILE_ROOM) {
-                source.state = IS_CLOSED;
+                source.endReading();
                 return false;
             }
             items[length] = v;
@@ -681,12 +714,10 @@ public final class InputOutput {
 
     /** The LISTS of the latest run: one for each HANDLE at most. */
     private static final class Lists {
-        private final Disk disk;
         private final LazyList[] all = new LazyList[MAX_HANDLES];
         private int count = 0;
 
-        Lists(Disk disk) {
-            this.disk = disk;
+        Lists() {
             for (int i = 0; i < MAX_HANDLES; i++) {
                 all[i] = new LazyList();
             }
@@ -705,28 +736,12 @@ public final class InputOutput {
         }
 
         int begin(Handle h) {
-            if (!h.isOpen() || h.mode != READ_MODE || count >= MAX_HANDLES) {
+            if (count >= MAX_HANDLES || !h.becomeHalf()) {
                 return turned(ILLEGAL);
             }
-            h.state = IS_HALF;
             all[count].begin(h);
             count++;
             return count - 1;
-        }
-
-        /** Asks for items up to this one: how many bytes that took. */
-        int reach(LazyList list, int i) {
-            int before = list.length();
-            int last = Math.min(i, FILE_ROOM);
-            boolean more = true;
-            for (int next = before; more && next <= last; next++) {
-                more = list.grow(disk);
-            }
-            return list.length() - before;
-        }
-
-        int reachEnd(LazyList list) {
-            return reach(list, FILE_ROOM);
         }
     }
 
@@ -932,28 +947,29 @@ public final class InputOutput {
             }
             switch (script.code(node)) {
                 case CLOSE:
-                    return close(node, h);
+                    noteClosing(node, h);
+                    return settle(node, A_NUMBER, h.close());
                 case TAKE:
-                    return act(node, A_NUMBER, handles.take(h));
+                    return act(node, A_NUMBER, h.take());
                 case LAZY:
                     return settle(node, A_LIST, lists.begin(h));
                 case WHERE:
-                    return settle(node, A_NUMBER, handles.placeOf(h));
+                    return settle(node, A_NUMBER, h.tellPlace());
                 case SIZE:
-                    return settle(node, A_NUMBER, handles.measure(h));
+                    return settle(node, A_NUMBER, h.measure());
                 case BUFFER:
-                    return act(node, A_NUMBER, handles.changeBuffer(h, script.second(node)));
+                    return act(node, A_NUMBER, h.changeBuffer(script.second(node)));
+                case FLUSH:
                 default:
-                    return act(node, A_NUMBER, handles.flush(h));
+                    return act(node, A_NUMBER, h.flush());
             }
         }
 
         /** A closing is an act even where its FLUSH FAILS, but not where there is nothing to close. */
-        private boolean close(int node, Handle h) {
-            if (h.state != IS_CLOSED) {
+        private void noteClosing(int node, Handle h) {
+            if (!h.isClosed()) {
                 journal.note(node);
             }
-            return settle(node, A_NUMBER, handles.close(h));
         }
 
         private boolean workHandleAndNumber(int node, int depth) {
@@ -961,7 +977,7 @@ public final class InputOutput {
             if (h == null || !workToNumber(script.second(node), node, depth)) {
                 return false;
             }
-            int answer = script.code(node) == PUT ? handles.put(h, number) : handles.seek(h, number);
+            int answer = script.code(node) == PUT ? h.put(number) : h.seek(number);
             return act(node, A_NUMBER, answer);
         }
 
@@ -974,7 +990,7 @@ public final class InputOutput {
             if (i < 0) {
                 return fail(ILLEGAL, node);
             }
-            noteTimes(node, lists.reach(list, i));
+            noteTimes(node, list.reach(i));
             return give(A_NUMBER, list.item(i));
         }
 
@@ -983,7 +999,7 @@ public final class InputOutput {
             if (list == null) {
                 return false;
             }
-            noteTimes(node, lists.reachEnd(list));
+            noteTimes(node, list.reach(FILE_ROOM));
             return give(A_NUMBER, list.length());
         }
 
@@ -1004,6 +1020,7 @@ public final class InputOutput {
                 case RENAME:
                     int answer = handles.renameFile(a, b);
                     return a == b ? settle(node, A_NUMBER, answer) : act(node, A_NUMBER, answer);
+                case READ:
                 default:
                     return act(node, A_NUMBER, console.readByte());
             }
@@ -1021,6 +1038,7 @@ public final class InputOutput {
                     return false;
                 case IF:
                     return work(number != 0 ? script.second(node) : script.third(node), depth + 1);
+                case TIMES:
                 default:
                     return workTimes(script.second(node), number, depth);
             }

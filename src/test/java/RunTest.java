@@ -158,6 +158,7 @@ public final class RunTest {
         s.ends("FINALLY does not", s.ending(over, print), Scene.STOPPED, 0);
         s.ends("BRACKET does not", s.bracket(n, print, over), Scene.STOPPED, 0);
         s.due("no end is worked", s.x.told(2), 0);
+        s.ends("nor is it ILLEGAL around them", s.print(s.ending(over, print)), Scene.STOPPED, 0);
         s.ends("it stops in an end, too", s.ending(s.fail(6), over), Scene.STOPPED, 0);
         s.ends("and ahead of EXIT", s.exit(over), Scene.STOPPED, 0);
         s.ends("and with no round left", s.then(exactly, n), Scene.STOPPED, 0);
