@@ -6,6 +6,11 @@ final class Check {
     private Check() {
     }
 
+    /** For tests that ask so often that a text for each answer would take too long. */
+    static void right() {
+        right++;
+    }
+
     static void due(String what, long got, long want) {
         if (got == want) {
             right++;

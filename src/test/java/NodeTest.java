@@ -4,7 +4,7 @@ public final class NodeTest {
     private static final int WILD = -77;
 
     /** For each CODE the number of values that a, b, c may have: 0 any, -1 a NODE of lesser number. */
-    private static final int[][] PARTS = {
+    static final int[][] PARTS = {
         {0, 0, 0}, {6, 0, 0}, {6, -1, 0}, {8, 4, 0}, {-1, 0, 0}, {-1, -1, 0}, {-1, 0, 0}, {-1, 0, 0},
         {-1, -1, 0}, {-1, 0, 0}, {-1, -1, 0}, {-1, 0, 0}, {-1, 0, 0}, {-1, 10, 0}, {-1, 0, 0}, {8, 0, 0},
         {8, 8, 0}, {-1, 0, 0}, {0, 0, 0}, {-1, -1, 0}, {-1, -1, -1}, {-1, -1, 0}, {-1, -1, 0}, {-1, -1, 0},
@@ -29,7 +29,7 @@ public final class NodeTest {
         int last = (bound < 0 ? told : bound) - 1;
         int[] tries = {0, last, -1, last + 1, Integer.MIN_VALUE, Integer.MAX_VALUE};
         for (int i = 0; i < tries.length; i++) {
-            InputOutput x = new InputOutput();
+            Watched x = new Watched();
             for (int n = 0; n < told; n++) {
                 x.node(0, n, 0, 0);
             }
@@ -47,7 +47,7 @@ public final class NodeTest {
 
     /** The first NODE has none of lesser number. */
     private static void firstOfAll(int code) {
-        InputOutput x = new InputOutput();
+        Watched x = new Watched();
         boolean needsNode = false;
         for (int part : PARTS[code]) {
             needsNode = needsNode || part < 0;
@@ -56,7 +56,7 @@ public final class NodeTest {
     }
 
     private static void codes() {
-        InputOutput x = new InputOutput();
+        Watched x = new Watched();
         for (int code : new int[] {-1, 29, Integer.MIN_VALUE, Integer.MAX_VALUE}) {
             Check.due("CODE " + code, x.node(code, 0, 0, 0), OUTSIDE);
         }
@@ -64,7 +64,7 @@ public final class NodeTest {
     }
 
     private static void room() {
-        InputOutput x = new InputOutput();
+        Watched x = new Watched();
         for (int n = 0; n < 60; n++) {
             Check.due("node " + n, x.node(0, n, 0, 0), n);
         }

@@ -196,7 +196,7 @@ public final class RunTest {
 
     private static void deepEnds() {
         for (int code : new int[] {4, 5, 8, 9}) {
-            InputOutput x = new InputOutput();
+            Watched x = new Watched();
             x.node(0, 1, 0, 0);
             for (int n = 1; n < 60; n++) {
                 Check.due("chain of " + code, x.node(code, n - 1, 0, 0), n);
@@ -205,7 +205,7 @@ public final class RunTest {
             Check.due("where in the chain of " + code, x.where(), 1);
             Check.due("worked of the chain of " + code, x.worked(), 60);
         }
-        InputOutput x = new InputOutput();
+        Watched x = new Watched();
         x.node(24, 6, 0, 0);
         for (int n = 1; n < 60; n++) {
             Check.due("chain of caught ones", x.node(26, 0, n - 1, 64), n);

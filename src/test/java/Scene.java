@@ -5,7 +5,7 @@ final class Scene {
     static final int A_NUMBER = 0, A_HANDLE = 1, A_LIST = 2, FAILED = 3, EXITED = 4, STOPPED = 5;
     static final int OPEN = 0, HALF = 1, CLOSED = 2;
 
-    final InputOutput x = new InputOutput();
+    final Watched x = new Watched();
     private final String name;
 
     Scene(String name) {

@@ -1,13 +1,16 @@
 import java.util.Arrays;
 import java.util.Random;
 
-/** Many made-up runs of calls, the same every time, whose answers are compared with those of Model. */
+/**
+ * Many made-up runs of calls, the same every time, whose answers are compared
+ * with those of Model; each object is asked 512 times at most.
+ */
 public final class WildTest {
     private static final int[] EDGES = {Integer.MIN_VALUE, -2, -1, 0, 1, 2, 3, 4, 5, 6, 7, 8, 9, 10, 19, 20, 39, 40,
         59, 60, 127, 128, 255, 256, 300, Integer.MAX_VALUE};
 
     private final Random random;
-    private final InputOutput x = new InputOutput();
+    private final Watched x = new Watched();
     private final Model m = new Model();
     private final String name;
     /** What each NODE will likely come to: 0 a number, 1 a HANDLE, 2 a LIST. */
@@ -24,7 +27,7 @@ public final class WildTest {
     public static void main(String[] args) {
         int[] endings = new int[6];
         int[] kinds = new int[7];
-        for (int seed = 0; seed < 6000; seed++) {
+        for (int seed = 0; seed < 25_000; seed++) {
             WildTest t = new WildTest(seed);
             t.play();
             for (int i = 0; i < 6; i++) {
@@ -51,20 +54,50 @@ public final class WildTest {
             for (int i = 0; i < nodes; i++) {
                 tellNode();
             }
-            for (int i = 0; i < 6; i++) {
+            for (int i = 0; i < 3; i++) {
                 int last = Math.max(0, m.told(0) - 1 - random.nextInt(4));
                 runNode(random.nextInt(4) == 0 ? wild() : last);
+                glance();
                 strayCall();
-                lookAround();
             }
             if (random.nextInt(3) == 0) {
-                due("clear", x.clear(), m.clear());
+                ask("clear");
             }
         }
+        lookAround();
     }
 
-    private void due(String what, int got, int want) {
-        Check.due(name + ": " + what, got, want);
+    /** The same call on both; none, once the object was called often enough. */
+    private int ask(String call, int... p) {
+        if (x.calls() >= Watched.CALLS) {
+            return InputOutput.NONE;
+        }
+        int got;
+        int want;
+        switch (call) {
+            case "lay" -> { got = x.lay(p[0], p[1]); want = m.lay(p[0], p[1]); }
+            case "there" -> { got = x.there(p[0], p[1] != 0); want = m.there(p[0], p[1] != 0); }
+            case "permit" -> { got = x.permit(p[0], p[1]); want = m.permit(p[0], p[1]); }
+            case "input" -> { got = x.input(p[0]); want = m.input(p[0]); }
+            case "node" -> { got = x.node(p[0], p[1], p[2], p[3]); want = m.node(p[0], p[1], p[2], p[3]); }
+            case "clear" -> { got = x.clear(); want = m.clear(); }
+            case "run" -> { got = x.run(p[0]); want = m.run(p[0]); }
+            case "value" -> { got = x.value(); want = m.value(); }
+            case "where" -> { got = x.where(); want = m.where(); }
+            case "worked" -> { got = x.worked(); want = m.worked(); }
+            case "order" -> { got = x.order(p[0]); want = m.order(p[0]); }
+            case "handle" -> { got = x.handle(p[0], p[1]); want = m.handle(p[0], p[1]); }
+            case "content" -> { got = x.content(p[0], p[1]); want = m.content(p[0], p[1]); }
+            case "size" -> { got = x.size(p[0]); want = m.size(p[0]); }
+            case "printed" -> { got = x.printed(p[0]); want = m.printed(p[0]); }
+            default -> { got = x.told(p[0]); want = m.told(p[0]); }
+        }
+        if (got != want) {
+            Check.due(name + ": call " + x.calls() + ", " + call + Arrays.toString(p), got, want);
+        } else {
+            Check.right();
+        }
+        return want;
     }
 
     private int wild() {
@@ -76,28 +109,25 @@ public final class WildTest {
         for (int file = 0; file < 8; file++) {
             int bytes = random.nextInt(2) * random.nextInt(most);
             for (int i = 0; i < bytes; i++) {
-                int v = random.nextInt(6) == 0 ? 10 : random.nextInt(256);
-                due("lay", x.lay(file, v), m.lay(file, v));
+                ask("lay", file, random.nextInt(6) == 0 ? 10 : random.nextInt(256));
             }
             if (random.nextInt(6) == 0) {
-                int bits = random.nextInt(4);
-                due("permit", x.permit(file, bits), m.permit(file, bits));
+                ask("permit", file, random.nextInt(4));
             }
         }
         for (int i = random.nextInt(5); i > 0; i--) {
-            due("input", x.input(i), m.input(i));
+            ask("input", i);
         }
     }
 
     private void strayCall() {
         int a = wild();
         int b = wild();
-        boolean is = random.nextBoolean();
         switch (random.nextInt(5)) {
-            case 0 -> due("lay", x.lay(a, b), m.lay(a, b));
-            case 1 -> due("there", x.there(a, is), m.there(a, is));
-            case 2 -> due("permit", x.permit(a, b), m.permit(a, b));
-            case 3 -> due("input", x.input(a), m.input(a));
+            case 0 -> ask("lay", a, b);
+            case 1 -> ask("there", a, random.nextInt(2));
+            case 2 -> ask("permit", a, b);
+            case 3 -> ask("input", a);
             default -> tell(a, b, wild(), wild(), 0);
         }
     }
@@ -169,55 +199,86 @@ public final class WildTest {
     }
 
     private void tell(int code, int a, int b, int c, int sort) {
-        int want = m.node(code, a, b, c);
-        due("node(" + code + ", " + a + ", " + b + ", " + c + ")", x.node(code, a, b, c), want);
-        if (want >= 0) {
-            sorts[want] = sort;
+        int n = ask("node", code, a, b, c);
+        if (n >= 0) {
+            sorts[n] = sort;
         }
     }
 
     private void runNode(int node) {
-        int want = m.run(node);
-        due("run(" + node + ")", x.run(node), want);
-        if (want >= 0) {
-            seen[want]++;
+        int ending = ask("run", node);
+        if (ending >= 0) {
+            seen[ending]++;
         }
-        if (want == Scene.FAILED) {
+        if (ending == Scene.FAILED) {
             failures[m.value()]++;
         }
     }
 
+    /** What costs few calls, behind every run. */
+    private void glance() {
+        ask("value");
+        ask("where");
+        ask("worked");
+        for (int what = 1; what <= 6; what++) {
+            ask("told", what);
+        }
+        ask("order", random.nextInt(1 + Math.min(301, m.told(6))));
+        ask("printed", random.nextInt(1 + Math.min(201, m.told(2))));
+        ask("handle", random.nextInt(1 + m.told(4)), random.nextInt(6));
+        ask("handle", random.nextInt(1 + m.told(4)), 2 + random.nextInt(4));
+        int file = random.nextInt(8);
+        ask("size", file);
+        ask("content", file, random.nextInt(2 + Math.max(0, m.size(file))) - 1);
+    }
+
+    /** All that there is to see, in one of several orders, as far as the calls go. */
     private void lookAround() {
-        due("value", x.value(), m.value());
-        due("where", x.where(), m.where());
-        due("worked", x.worked(), m.worked());
-        for (int what = -1; what <= 7; what++) {
-            due("told(" + what + ")", x.told(what), m.told(what));
-        }
-        for (int i = -1; i <= Math.min(301, m.told(6)); i++) {
-            due("order(" + i + ")", x.order(i), m.order(i));
-        }
-        for (int i = -1; i <= Math.min(201, m.told(2)); i++) {
-            due("printed(" + i + ")", x.printed(i), m.printed(i));
-        }
-        for (int h = -1; h <= m.told(4); h++) {
-            for (int what = -1; what <= 6; what++) {
-                due("handle(" + h + ", " + what + ")", x.handle(h, what), m.handle(h, what));
-            }
-        }
-        for (int file = -1; file <= 8; file++) {
-            due("size(" + file + ")", x.size(file), m.size(file));
-            for (int i = -1; i <= Math.max(0, m.size(file)); i++) {
-                due("content(" + file + ", " + i + ")", x.content(file, i), m.content(file, i));
-            }
-        }
         int a = wild();
         int b = wild();
-        due("order", x.order(a), m.order(a));
-        due("printed", x.printed(a), m.printed(a));
-        due("handle", x.handle(a, b), m.handle(a, b));
-        due("content", x.content(a, b), m.content(a, b));
-        due("size", x.size(a), m.size(a));
-        due("told", x.told(a), m.told(a));
+        ask("order", a);
+        ask("printed", a);
+        ask("handle", a, b);
+        ask("content", a, b);
+        ask("size", a);
+        ask("told", a);
+        int first = random.nextInt(4);
+        for (int i = 0; i < 4; i++) {
+            switch ((first + i) % 4) {
+                case 0 -> lookAtHandles();
+                case 1 -> lookAtFiles();
+                case 2 -> lookAtOrder();
+                default -> lookAtOutput();
+            }
+        }
+    }
+
+    private void lookAtHandles() {
+        for (int h = -1; h <= m.told(4); h++) {
+            for (int what = -1; what <= 6; what++) {
+                ask("handle", h, what);
+            }
+        }
+    }
+
+    private void lookAtFiles() {
+        for (int file = -1; file <= 8; file++) {
+            ask("size", file);
+            for (int i = -1; i <= Math.max(0, m.size(file)); i++) {
+                ask("content", file, i);
+            }
+        }
+    }
+
+    private void lookAtOrder() {
+        for (int i = -1; i <= Math.min(301, m.told(6)); i++) {
+            ask("order", i);
+        }
+    }
+
+    private void lookAtOutput() {
+        for (int i = -1; i <= Math.min(201, m.told(2)); i++) {
+            ask("printed", i);
+        }
     }
 }
