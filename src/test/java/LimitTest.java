@@ -23,6 +23,7 @@ public final class LimitTest {
         handles();
         handlesOfEachRun();
         modes();
+        firstPlaces();
         bufferSorts();
         lineOfTwenty();
         lineEnds();
@@ -336,6 +337,28 @@ public final class LimitTest {
         }
         for (int mode : new int[] {-1, 4, LEAST, MOST}) {
             s.due("MODE " + mode, s.x.node(3, 0, mode, 0), OUTSIDE);
+        }
+    }
+
+    /** "a HANDLE, at the FILE's beginning, of APPEND behind its last byte": with 0, 1, 39, 40 bytes. */
+    private static void firstPlaces() {
+        for (int bytes : new int[] {NONE, 0, 1, 39, 40}) {
+            for (int mode = 0; mode <= 3; mode++) {
+                Scene s = new Scene("first PLACE, " + bytes + " bytes, MODE " + mode);
+                if (bytes != NONE) {
+                    s.x.there(0, true);
+                    s.fill(0, bytes, 8);
+                }
+                int open = s.open(0, mode);
+                int where = s.where(open);
+                if (bytes == NONE && mode == Scene.READ) {
+                    s.fails("ABSENT", where, Scene.ABSENT, open);
+                    s.due("it is not there", s.x.size(0), NONE);
+                    continue;
+                }
+                s.number("WHERE", where, mode == Scene.APPEND ? Math.max(0, bytes) : 0);
+                s.due("its bytes", s.x.size(0), mode == Scene.WRITE ? 0 : Math.max(0, bytes));
+            }
         }
     }
 

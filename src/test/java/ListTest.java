@@ -7,6 +7,8 @@ public final class ListTest {
         items();
         lengths();
         closedBetween();
+        closedAtEachItem();
+        oneForEachHandle();
         fromPlace();
         longest();
         keepsItsItems();
@@ -86,6 +88,48 @@ public final class ListTest {
         s.number("ITEM ahead of it", s.then(keep, second, close, second), 22);
         s.number("ITEM behind it", s.then(keep, second, close, s.item(s.get(1), s.num(2))), -1);
         s.number("nothing read", s.then(keep, close, s.length(s.get(1))), 0);
+    }
+
+    /** "A HANDLE that was closed ends its LIST where it is": with no item, some, all of them. */
+    private static void closedAtEachItem() {
+        for (int read = 0; read <= 3; read++) {
+            Scene s = new Scene("closed with " + read + " items");
+            s.lay(0, 11, 22, 33);
+            int list = s.get(1);
+            int open = s.set(2, s.open(0, Scene.READ));
+            int keep = s.then(open, s.set(1, s.lazy(s.get(2))));
+            int some = read == 0 ? s.num(0) : s.item(list, s.num(read - 1));
+            int closed = s.then(keep, some, s.close(s.get(2)));
+            s.number("LENGTH", s.then(closed, s.length(list)), read);
+            s.handle("no more is taken", 0, 0, Scene.READ, Scene.CLOSED, 0, read, 0);
+            s.due("no act more", s.x.told(6), read + 2);
+            for (int i = 0; i <= 3; i++) {
+                s.number("ITEM " + i, s.then(closed, s.item(list, s.num(i))), i < read ? 11 * (i + 1) : -1);
+            }
+            int below = s.item(list, s.num(-1));
+            s.fails("ITEM -1", s.then(closed, below), Scene.ILLEGAL, below);
+            s.ends("the FILE is held no more", s.then(closed, s.open(0, Scene.WRITE)), Scene.A_HANDLE, 1);
+        }
+    }
+
+    /** "numbered from 0 on, one for each": a HANDLE has no second LIST, and 20 HANDLES have 20. */
+    private static void oneForEachHandle() {
+        Scene s = new Scene("one for each");
+        s.lay(0, 11);
+        int open = s.set(2, s.open(0, Scene.READ));
+        int lazy = s.lazy(s.get(2));
+        s.fails("a second one", s.then(open, lazy, lazy), Scene.ILLEGAL, lazy);
+        s.due("LISTS", s.x.told(5), 1);
+        s.fails("once it ended", s.then(open, s.length(lazy), lazy), Scene.ILLEGAL, lazy);
+        int both = s.then(open, lazy);
+        for (int count = 18; count <= 19; count++) {
+            s.ends(count + " before", s.then(s.times(s.num(count), both), both), Scene.A_LIST, count);
+            s.due("LISTS", s.x.told(5), count + 1);
+        }
+        s.ends("20 before", s.then(s.times(s.num(20), both), both), Scene.FAILED, Scene.FULL);
+        s.due("LISTS", s.x.told(5), 20);
+        s.ends("the next run is anew", both, Scene.A_LIST, 0);
+        s.ends("HANDLES without LISTS are not counted", s.then(open, open, lazy), Scene.A_LIST, 0);
     }
 
     private static void fromPlace() {

@@ -14,6 +14,8 @@ public final class RefusalTest {
         removing();
         renaming();
         renamingToItself();
+        renamingEmptyAndFull();
+        heldUntilTheLast();
         handleCodes();
         wantedSorts();
         anySort();
@@ -243,6 +245,61 @@ public final class RefusalTest {
                 }
             }
         }
+    }
+
+    /** "b is there with the bytes of a, a is not": 0, 1, 39 and 40 of them, over as many, on a full disk. */
+    private static void renamingEmptyAndFull() {
+        for (int from : new int[] {0, 1, 39, 40}) {
+            for (int to : new int[] {NONE, 0, 1, 39, 40}) {
+                Scene s = new Scene("RENAME of " + from + " over " + to);
+                s.x.there(0, true);
+                s.fill(0, from, 4);
+                if (to != NONE) {
+                    s.x.there(1, true);
+                    s.fill(1, to, 5);
+                }
+                int others = 120 - from - Math.max(0, to);
+                for (int i = 0; i < others; i++) {
+                    s.lay(2 + i / 40, 6);
+                }
+                s.number("RENAME", s.rename(0, 1), 0);
+                s.due("a", s.x.size(0), NONE);
+                s.due("a's bytes", s.x.content(0, 0), NONE);
+                s.due("b", s.x.size(1), from);
+                s.due("b's first byte", s.x.content(1, 0), from > 0 ? 4 : NONE);
+                s.due("b's last byte", s.x.content(1, from - 1), from > 0 ? 4 : NONE);
+                s.due("none behind", s.x.content(1, from), NONE);
+                s.due("bytes of all FILES", s.x.told(3), 120 - Math.max(0, to));
+                s.due("a new a", s.x.lay(0, 7), to > 0 ? 1 : InputOutput.ROOM);
+                s.due("has no old bytes", s.x.content(0, 1), NONE);
+            }
+        }
+    }
+
+    /** "A FILE is HELD by its HANDLES that are OPEN or HALF": until the last one is CLOSED. */
+    private static void heldUntilTheLast() {
+        Scene s = new Scene("held until the last");
+        s.lay(0, 4);
+        int first = s.set(1, s.open(0, Scene.READ));
+        int second = s.set(2, s.open(0, Scene.READ));
+        int both = s.then(first, second);
+        int closeFirst = s.close(s.get(1));
+        int closeSecond = s.close(s.get(2));
+        int half = s.lazy(s.get(2));
+        int[] nodes = {s.open(0, Scene.WRITE), s.open(0, Scene.APPEND), s.open(0, Scene.BOTH), s.rename(0, 3), s.remove(0)};
+        for (int node : nodes) {
+            s.fails("the second holds it", s.then(both, closeFirst, node), Scene.BUSY, node);
+            s.fails("the first holds it", s.then(both, closeSecond, node), Scene.BUSY, node);
+            s.fails("HALF holds it", s.then(both, half, closeFirst, node), Scene.BUSY, node);
+        }
+        s.content("it stays", 0, 4);
+        s.x.clear();
+        int open = s.set(1, s.open(0, Scene.READ));
+        int closed = s.then(open, s.close(s.get(1)), open, s.close(s.get(1)));
+        s.number("none holds it", s.then(closed, s.remove(0)), 0);
+        s.due("it is not there", s.x.size(0), NONE);
+        int absent = s.open(0, Scene.READ);
+        s.fails("then it is ABSENT", s.then(s.close(s.open(0, Scene.WRITE)), s.remove(0), absent), Scene.ABSENT, absent);
     }
 
     /** "4 to 7 and 10 to 14 want a HANDLE; but for 4, one that is not OPEN: ILLEGAL, once all parts are worked". */

@@ -15,7 +15,29 @@ public final class RoomTest {
         return BEAN.getThreadAllocatedBytes(Thread.currentThread().getId());
     }
 
+    /** Ten objects, each asked 512 times at most. */
     private static void calls() {
+        InputOutput[] objects = new InputOutput[10];
+        for (int i = 0; i < objects.length; i++) {
+            objects[i] = furnished();
+        }
+        made();
+        long before = made();
+        for (InputOutput x : objects) {
+            for (int i = 0; i < 150; i++) {
+                x.run(BUSIEST);
+                x.order(i);
+                x.handle(0, 0);
+            }
+        }
+        long bytes = made() - before;
+        Check.holds("1500 runs make nothing, but " + bytes, bytes < 4096);
+    }
+
+    private static final int BUSIEST = 8;
+
+    /** Its last NODE opens 20 HANDLES, reads 20 LISTS of 40 bytes, and FAILS. */
+    private static InputOutput furnished() {
         InputOutput x = new InputOutput();
         for (int i = 0; i < 40; i++) {
             x.lay(0, i);
@@ -25,17 +47,9 @@ public final class RoomTest {
         int twenty = x.node(23, x.node(0, 20, 0, 0), length, 0);
         int many = x.node(23, x.node(0, 1000, 0, 0), open, 0);
         int caught = x.node(26, many, open, 32);
-        int all = x.node(19, twenty, caught, 0);
-        x.run(all);
-        made();
-        long before = made();
-        for (int i = 0; i < 512; i++) {
-            x.run(all);
-            x.order(i);
-            x.handle(0, 0);
-        }
-        long bytes = made() - before;
-        Check.holds("512 runs make nothing, but " + bytes, bytes < 4096);
+        Check.due("the busiest NODE", x.node(19, twenty, caught, 0), BUSIEST);
+        Check.due("its run", x.run(BUSIEST), Scene.FAILED);
+        return x;
     }
 
     /** Even if every call were a new object, 512 of them are far below the room's 7.3 million elements. */
